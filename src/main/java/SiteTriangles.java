@@ -245,7 +245,7 @@ public final class SiteTriangles {
         return dx * dx + dy * dy;
     }
 
-    /** Below 0 if, seen from site m, sites a and b lie more than a right angle apart. */
+    /** For m in line with a and b: below 0 if it is between them, 0 if it is one of them. */
     private long dot(int m, int a, int b) {
         return (xOf(a) - xOf(m)) * (xOf(b) - xOf(m)) + (yOf(a) - yOf(m)) * (yOf(b) - yOf(m));
     }
@@ -458,12 +458,9 @@ public final class SiteTriangles {
         return -1;
     }
 
-    /** Whether every other site is to the left of the way from a to b, or on it between them. */
+    /** Whether every site is to the left of the way from a to b, or on it between them. */
     private boolean isRingSide(int a, int b) {
         for (int m = 0; m < siteCount; m++) {
-            if (m == a || m == b) {
-                continue;
-            }
             long turning = turn(a, b, m);
             if (turning < 0 || (turning == 0 && dot(m, a, b) > 0)) {
                 return false;
