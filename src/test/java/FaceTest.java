@@ -32,6 +32,9 @@ public final class FaceTest {
         "public long SiteTriangles.total()",
     };
 
+    private static final Set<Class<?>> CONSTANTS = Set.of(
+        int.class, long.class, boolean.class, char.class, String.class, int[].class, long[].class, char[].class, byte[].class);
+
     public static void main(String[] args) {
         Class<SiteTriangles> type = SiteTriangles.class;
         due("the class's modifiers", Modifier.PUBLIC | Modifier.FINAL, type.getModifiers());
@@ -75,7 +78,7 @@ public final class FaceTest {
             due(field + " is private", true, Modifier.isPrivate(field.getModifiers()));
             if (isStatic(field)) {
                 due(field + " is final", true, Modifier.isFinal(field.getModifiers()));
-                due(field + " is a number", true, field.getType() == int.class || field.getType() == long.class);
+                due(field + " is of a type of constants", true, CONSTANTS.contains(field.getType()));
             }
         }
     }

@@ -31,7 +31,7 @@ public final class ModelTest {
     // ---- the runs
 
     private static void oneRun(int kind) {
-        SiteTriangles real = new SiteTriangles();
+        Asked real = new Asked();
         Model model = new Model();
         compare(real, model);
         for (int call = 0; call < 18; call++) {
@@ -78,48 +78,48 @@ public final class ModelTest {
 
     // ---- one state, all calls
 
-    private static void compare(SiteTriangles real, Model model) {
+    private static void compare(Asked real, Model model) {
         model.work();
-        due(model, "sites()", model.count(), real.sites());
-        due(model, "triangles()", model.triangles.size(), real.triangles());
+        due(model, "sites()", model.count(), real.next().sites());
+        due(model, "triangles()", model.triangles.size(), real.next().triangles());
         compareTriangles(real, model);
         compareEdges(real, model);
-        due(model, "corners()", model.ring.size(), real.corners());
+        due(model, "corners()", model.ring.size(), real.next().corners());
         for (int k = -1; k <= 15; k++) {
-            due(model, "corner(" + k + ")", entry(model.ring, k), real.corner(k));
-            due(model, "tree(" + k + ")", entry(model.tree, k), real.tree(k));
+            due(model, "corner(" + k + ")", entry(model.ring, k), real.next().corner(k));
+            due(model, "tree(" + k + ")", entry(model.tree, k), real.next().tree(k));
         }
-        due(model, "total()", model.total, real.total());
+        due(model, "total()", model.total, real.next().total());
         for (int point = 0; point < 25; point++) {
             comparePoint(real, model, pickEighths(model), pickEighths(model));
         }
         compareMidpoints(real, model);
     }
 
-    private static void compareTriangles(SiteTriangles real, Model model) {
+    private static void compareTriangles(Asked real, Model model) {
         for (int i = -1; i <= 25; i++) {
             boolean there = i >= 0 && i < model.triangles.size();
-            due(model, "triangle(" + i + ")", there ? packed(model.triangles.get(i)) : -1, real.triangle(i));
+            due(model, "triangle(" + i + ")", there ? packed(model.triangles.get(i)) : -1, real.next().triangle(i));
             BigInteger[] centre = there ? model.centre(model.triangles.get(i)) : null;
             for (int k = -1; k <= 3; k++) {
                 boolean known = there && k >= 0 && k <= 2;
-                due(model, "beyond(" + i + ", " + k + ")", known ? model.beyond(i, k) : -1, real.beyond(i, k));
-                due(model, "centre(" + i + ", " + k + ")", known ? centre[k].longValueExact() : 0, real.centre(i, k));
+                due(model, "beyond(" + i + ", " + k + ")", known ? model.beyond(i, k) : -1, real.next().beyond(i, k));
+                due(model, "centre(" + i + ", " + k + ")", known ? centre[k].longValueExact() : 0, real.next().centre(i, k));
             }
         }
     }
 
-    private static void compareEdges(SiteTriangles real, Model model) {
+    private static void compareEdges(Asked real, Model model) {
         for (int a = -1; a <= 15; a++) {
             int degree = 0;
             for (int b = -1; b <= 15; b++) {
                 boolean edge = model.hasEdge(a, b);
                 degree += edge ? 1 : 0;
-                due(model, "joined(" + a + ", " + b + ")", edge ? 1 : 0, real.joined(a, b) ? 1 : 0);
+                due(model, "joined(" + a + ", " + b + ")", edge ? 1 : 0, real.next().joined(a, b) ? 1 : 0);
             }
             boolean there = a >= 0 && a < model.count();
-            due(model, "degree(" + a + ")", there ? degree : -1, real.degree(a));
-            due(model, "bounded(" + a + ")", there && model.isBounded(a) ? 1 : 0, real.bounded(a) ? 1 : 0);
+            due(model, "degree(" + a + ")", there ? degree : -1, real.next().degree(a));
+            due(model, "bounded(" + a + ")", there && model.isBounded(a) ? 1 : 0, real.next().bounded(a) ? 1 : 0);
         }
     }
 
@@ -132,7 +132,7 @@ public final class ModelTest {
     }
 
     /** The middle of two sites is on sides and ties more often than a point picked freely. */
-    private static void compareMidpoints(SiteTriangles real, Model model) {
+    private static void compareMidpoints(Asked real, Model model) {
         for (int a = 0; a < model.count(); a++) {
             for (int b = a; b < model.count(); b += pick(1, 3)) {
                 int[] p = model.sites.get(a);
@@ -142,16 +142,16 @@ public final class ModelTest {
         }
     }
 
-    private static void comparePoint(SiteTriangles real, Model model, long x8, long y8) {
+    private static void comparePoint(Asked real, Model model, long x8, long y8) {
         double x = x8 / 8.0;
         double y = y8 / 8.0;
         String at = "(" + x + ", " + y + ")";
         boolean refused = Math.abs(x8) > 320000 || Math.abs(y8) > 320000;
-        due(model, "nearest" + at, refused ? -2 : model.nearest(x8, y8), real.nearest(x, y));
-        due(model, "holder" + at, refused ? -2 : model.holder(x8, y8), real.holder(x, y));
+        due(model, "nearest" + at, refused ? -2 : model.nearest(x8, y8), real.next().nearest(x, y));
+        due(model, "holder" + at, refused ? -2 : model.holder(x8, y8), real.next().holder(x, y));
         int a = pick(-1, 14);
         double square = a < 0 || a >= model.count() ? -1 : model.gap64(a, x8, y8) / 64.0;
-        due(model, "square of " + a + " " + at, refused ? -2 : square, real.square(a, x, y));
+        due(model, "square of " + a + " " + at, refused ? -2 : square, real.next().square(a, x, y));
     }
 
     private static int entry(List<Integer> row, int k) {
@@ -181,6 +181,36 @@ public final class ModelTest {
             sites.append(Arrays.toString(site));
         }
         System.out.println("with " + sites + ": " + call + " answered " + got + ", due is " + want);
+    }
+
+    /**
+     * An object of the class, made anew with the same adds before its 513th call, as what later
+     * calls answer is free.
+     */
+    private static final class Asked {
+        private static final int MOST_CALLS = 512;
+
+        private final List<int[]> adds = new ArrayList<>();
+        private SiteTriangles object = new SiteTriangles();
+        private int calls = 0;
+
+        int add(int x, int y) {
+            int answer = next().add(x, y);
+            adds.add(new int[] {x, y});
+            return answer;
+        }
+
+        SiteTriangles next() {
+            if (calls == MOST_CALLS) {
+                object = new SiteTriangles();
+                for (int[] site : adds) {
+                    object.add(site[0], site[1]);
+                }
+                calls = adds.size();
+            }
+            calls++;
+            return object;
+        }
     }
 
     /** The document's terms, as they are said. */

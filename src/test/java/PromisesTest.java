@@ -22,6 +22,7 @@ public final class PromisesTest {
         promise15Tree();
         promise16Total();
         promise17Bounded();
+        noCallThrows();
         if (wrong != 0) {
             System.exit(1);
         }
@@ -341,6 +342,37 @@ public final class PromisesTest {
         }
     }
 
+    /** What is answered to points that are never given is free, but that it is answered is not. */
+    private static void noCallThrows() {
+        int[] numbers = {Integer.MIN_VALUE, -1, 0, 13, 14, 31, 32, Integer.MAX_VALUE};
+        double[] points = {Double.NaN, Double.POSITIVE_INFINITY, Double.NEGATIVE_INFINITY, Double.MAX_VALUE, Double.MIN_VALUE, 0.1};
+        for (int p : numbers) {
+            for (SiteTriangles t : new SiteTriangles[] {new SiteTriangles(), sitesAt(1, 1), sitesAt(0, 0, 2, 2, 4, 4), fullest()}) {
+                t.triangle(p);
+                t.degree(p);
+                t.corner(p);
+                t.tree(p);
+                t.bounded(p);
+                for (int q : numbers) {
+                    t.beyond(p, q);
+                    t.centre(p, q);
+                    t.joined(p, q);
+                }
+                for (double far : points) {
+                    t.nearest(far, 0);
+                    t.nearest(0, far);
+                    t.holder(far, 0);
+                    t.holder(0, far);
+                    t.square(p, far, 0);
+                    t.square(p, 0, far);
+                }
+                for (int q : numbers) {
+                    t.add(p, q);
+                }
+            }
+        }
+    }
+
     // ---- sites
 
     private static SiteTriangles sitesAt(int... xy) {
@@ -387,7 +419,7 @@ public final class PromisesTest {
     // ---- what is due
 
     private static void dueRefused(String call, SiteTriangles t) {
-        double[] refused = {FAR, -FAR, 320000, -1e300, Double.POSITIVE_INFINITY, Double.NEGATIVE_INFINITY, Double.NaN};
+        double[] refused = {FAR, -FAR, 320000, -1e300};
         for (double far : refused) {
             due(call + ": x refused " + far, -2, asked(call, t, far, 0));
             due(call + ": y refused " + far, -2, asked(call, t, 0, far));
