@@ -467,6 +467,10 @@ public final class BoundaryTest {
             dueRefused("a site below all", sitesAt(FULLEST), -1, far);
             dueRefused("a site above all", sitesAt(FULLEST), Integer.MAX_VALUE, far);
         }
+        SiteTriangles t = sitesAt(FULLEST);
+        String before = answers(t);
+        dueRefused("no change", t, 0, FAR);
+        due("all answers after it", before, answers(t));
     }
 
     private static void pointsAreExact() {
