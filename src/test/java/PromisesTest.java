@@ -23,6 +23,7 @@ public final class PromisesTest {
         promise16Total();
         promise17Bounded();
         noCallThrows();
+        readmeHolds();
         if (wrong != 0) {
             System.exit(1);
         }
@@ -371,6 +372,28 @@ public final class PromisesTest {
                 }
             }
         }
+    }
+
+    /** The example of README.md, line by line. */
+    private static void readmeHolds() {
+        SiteTriangles t = new SiteTriangles();
+        due("README: add 0", 0, t.add(0, 0));
+        due("README: add 1", 1, t.add(4, 0));
+        due("README: add 2", 2, t.add(0, 3));
+        due("README: add 1 again", 1, t.add(4, 0));
+        due("README: triangle", 0 + 16 * 1 + 256 * 2, t.triangle(0));
+        due("README: beyond", -1, t.beyond(0, 0));
+        due("README: centre, x", 4, t.centre(0, 0));
+        due("README: centre, y", 3, t.centre(0, 1));
+        due("README: centre, d", 2, t.centre(0, 2));
+        due("README: joined", true, t.joined(1, 2));
+        due("README: corner", 1, t.corner(1));
+        due("README: nearest", 1, t.nearest(3.5, 1));
+        due("README: holder", 0, t.holder(1, 1));
+        due("README: square", 0.25, t.square(2, 0.5, 3));
+        due("README: tree", 0 + 16 * 2, t.tree(0));
+        due("README: total", 9 + 16, t.total());
+        due("README: bounded", false, t.bounded(0));
     }
 
     // ---- sites
